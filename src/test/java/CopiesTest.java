@@ -195,14 +195,22 @@ public final class CopiesTest {
         x.notice();
         x.correct(0, 2);
         due.is("33 all left out", x.stood(0, 0, 1), NO);
+        x.edition(0);
+        x.copy(0);
+        x.tell(2, 0, 1, 4);
+        x.tell(2, 0, 1, 5);
+        x.end(2);
+        x.notice();
+        x.correct(1, 3);
+        due.is("33 told and ended by the first notice behind the edition", x.stood(1, 1, 1), 5);
         x.sound(0, 0, 0, 9);
         x.tell(2, 0, 0, 2);
         x.edition(0);
         x.copy(0);
-        x.end(4);
+        x.end(5);
         x.notice();
-        x.correct(1, 3);
-        due.is("33 told and ended by one notice; the edition shows it still", x.stood(1, 0, 1), 2);
+        x.correct(2, 4);
+        due.is("33 told and ended by one notice; the edition shows it still", x.stood(2, 0, 1), 2);
     }
 
     private static void latestEdition() {

@@ -8,6 +8,7 @@ public final class RulesTest {
         faults();
         fineTexts();
         ruledDefaults();
+        ruledByOneClause();
         ruleOfDay();
         lastClauseCounts();
         outranks();
@@ -175,6 +176,20 @@ public final class RulesTest {
         }
     }
 
+    /** A CLAUSE sets what its word names alone. */
+    private static void ruledByOneClause() {
+        String[] texts = {"year 12", "near 12", "span 12", "late 12"};
+        for (int i = 0; i < texts.length; i++) {
+            FathomRoom x = new FathomRoom();
+            Due.rule(x, texts[i], 0);
+            int[] all = {0, 999, 0, 0, 999, 210, 0};
+            all[i + 1] = 12;
+            for (int what = 0; what < 7; what++) {
+                due.is("19 " + texts[i] + " " + what, x.ruled(0, what), all[what]);
+            }
+        }
+    }
+
     private static void ruleOfDay() {
         FathomRoom x = new FathomRoom();
         Due.rule(x, "near 1", 10);
@@ -201,8 +216,8 @@ public final class RulesTest {
         due.is("19 year", x.ruled(0, 1), 999);
         // A text with a fault leaves nothing for the next one.
         Due.rule(x, "span 9;late 9;year 9;near 9;rank lwe;tell d;x", 1);
-        due.is("19 next", Due.rule(x, "near 8", 1), 1);
-        int[] next = {1, 999, 8, 0, 999, 210, 0};
+        due.is("19 next", Due.rule(x, "tell u", 1), 1);
+        int[] next = {1, 999, 0, 0, 999, 210, 8};
         for (int what = 0; what < 7; what++) {
             due.is("19 next " + what, x.ruled(1, what), next[what]);
         }

@@ -99,6 +99,10 @@ public final class ThingsTest {
         due.is("9 left", x.of(10, 1), 46);
         due.is("9 up", x.line(0, 47, 3, 0, 0, 0, 2), 2);
         due.is("9 up", x.of(12, 1), 39);
+        due.is("9 to the first cell", x.line(0, 16, 3, 0, 0, 0, 3), 3);
+        due.is("9 to the first cell", x.of(15, 1), 0);
+        due.is("9 to the last cell", x.line(0, 45, 0, 0, 0, 0, 3), 3);
+        due.is("9 to the last cell", x.of(18, 1), 47);
         due.is("9 one", x.line(0, 47, 0, 0, 0, 5, 1), 1);
         due.is("10 one", x.ended(), 0);
         due.is("9 48 long", x.line(0, 0, 0, 0, 0, 0, 48), 6);

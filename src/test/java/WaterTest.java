@@ -8,6 +8,7 @@ public final class WaterTest {
         waterOfOne();
         waterQuarrels();
         waterTies();
+        bestOfTwo();
         bestGoesRound();
         waterByDays();
         leastWater();
@@ -17,6 +18,7 @@ public final class WaterTest {
         shownByScale();
         judge();
         edition();
+        editionByPlaces();
         editionOfLights();
         editionsFull();
         notice();
@@ -109,6 +111,18 @@ public final class WaterTest {
         due.is("21 then", x.water(0, 0, 1), 4);
     }
 
+    private static void bestOfTwo() {
+        FathomRoom x = new FathomRoom();
+        x.survey(2, 0, 0);
+        x.survey(0, 0, 0);
+        x.sound(1, 0, 0, 20);
+        x.sound(0, 0, 0, 30);
+        due.is("21 THE BEST outranks the first thing", x.water(0, 0, 3), 1);
+        x.sound(0, 1, 0, 30);
+        x.sound(1, 1, 0, 20);
+        due.is("21 THE BEST outranks a later one", x.water(1, 0, 3), 2);
+    }
+
     private static void bestGoesRound() {
         FathomRoom x = new FathomRoom();
         // Rank ewl, year 5: 0 (lead, 6) above 1 (echo, 0); 1 above 2 (wire, 3); 2 above 0 by rank.
@@ -175,6 +189,10 @@ public final class WaterTest {
         x.end(4);
         due.is("21 ended", x.water(0, 1, 4), 18);
         due.is("21 stood yesterday", x.water(0, 0, 4), 17);
+        FathomRoom y = new FathomRoom();
+        y.survey(0, 0, 0);
+        y.tell(2, 0, 1, 33);
+        due.is("21 the first thing of all", y.water(1, 0, 4), 33);
         x.tell(2, 0, 1, 33);
         due.is("21 a danger alone", x.water(1, 1, 4), 33);
         due.is("21 a danger alone is no water", x.water(1, 1, 0), NO);
@@ -365,6 +383,36 @@ public final class WaterTest {
         due.is("25 by the rule today", x.edition(0), 4);
         due.is("26 by the rule today", x.printed(4, 9), 2);
         due.is("43 editions", x.count(5), 5);
+    }
+
+    /** A sheet of 2 rows and 3 columns from CELL 12 on, and all CELLS around it. */
+    private static void editionByPlaces() {
+        FathomRoom x = new FathomRoom();
+        x.survey(0, 0, 0);
+        x.sheet(12, 2, 3, 0);
+        for (int cell = 0; cell < 40; cell++) {
+            x.tell(2, 0, cell, cell);
+            x.tell(4, 0, cell, 0);
+        }
+        x.edition(0);
+        x.copy(0);
+        due.is("27 its lights alone", x.lights(0), 6);
+        for (int cell = 0; cell < 48; cell++) {
+            boolean of = cell / 8 >= 1 && cell / 8 <= 2 && cell % 8 >= 4 && cell % 8 <= 6;
+            due.is("26 printed in " + cell, x.printed(0, cell), of ? cell : NO);
+            due.is("33 stands in " + cell, x.stood(0, cell, 0), of ? cell : NO);
+        }
+        Due.rule(x, "tell d", 0);
+        x.notice();
+        int[] around = {3, 4, 7, 11, 15, 19, 23, 27, 28, 31};
+        for (int i = 0; i < around.length; i++) {
+            x.tell(2, 0, around[i], 1);
+        }
+        x.notice();
+        x.correct(0, 1);
+        for (int cell : around) {
+            due.is("33 not of the sheet: " + cell, x.stood(0, cell, 0), NO);
+        }
     }
 
     // Promise 27

@@ -157,6 +157,11 @@ public final class WaysTest {
         x.step(15);
         x.tell(2, 0, 16, 0);
         due.is("37 not over the edge", x.go(0, 0, 0, 2), 0);
+        x.stepless();
+        x.step(9);
+        due.is("37 near the first cell of the sea", x.go(0, 0, 0, 2), 3);
+        x.stepless();
+        x.step(15);
         x.step(23);
         x.tell(2, 0, 31, 0);
         due.is("37 from any of the way", x.go(0, 0, 0, 2), 1);
