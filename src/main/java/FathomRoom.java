@@ -326,10 +326,10 @@ public final class FathomRoom {
     }
 
     public int sheet(int cell, int rows, int columns, int scale) {
-        if (!Sea.isCell(cell) || rows < 1 || rows > 4 || columns < 1 || columns > 4 || rows * columns > Sheet.MOST_CELLS) {
+        if (!Sea.isCell(cell) || rows < 1 || rows > 4 || columns < 1 || columns > 4 || scale < 0 || scale > 3) {
             return BAD;
         }
-        if (scale < 0 || scale > 3 || !Sea.holds(cell, rows, columns)) {
+        if (rows * columns > Sheet.MOST_CELLS || !Sea.holds(cell, rows, columns)) {
             return BAD;
         }
         if (sheetCount >= SHEETS) {
@@ -665,6 +665,10 @@ public final class FathomRoom {
         return kind == DANGER || kind == DOUBT || kind == WRECK;
     }
 
+    private static boolean hasBit(int bits, int i) {
+        return (bits >> i & 1) == 1;
+    }
+
     /** The lesser of two depths, either of which may be missing. */
     private static int lesser(int a, int b) {
         if (a == NO || b == NO) {
@@ -782,8 +786,8 @@ public final class FathomRoom {
         int risk = 0;
         for (int i = 0; i < 4; i++) {
             int cell = Sea.cellOfBlock(block, i);
-            int doubts = book.countDoubts(cell, today);
-            risk += sea.shipsIn(cell) * (book.hasDepth(cell, today) ? doubts : doubts + 1);
+            int times = book.countOf(DOUBT, cell, today) + (isUnsounded(cell) ? 1 : 0);
+            risk += sea.shipsIn(cell) * times;
         }
         return risk;
     }
@@ -791,11 +795,16 @@ public final class FathomRoom {
     private int costOf(int block) {
         int cost = 3;
         for (int i = 0; i < 4; i++) {
-            if (!book.hasDepth(Sea.cellOfBlock(block, i), today)) {
+            if (isUnsounded(Sea.cellOfBlock(block, i))) {
                 cost++;
             }
         }
         return cost;
+    }
+
+    /** Where no DEPTH STANDS today there is no WATER. */
+    private boolean isUnsounded(int cell) {
+        return book.countOf(DEPTH, cell, today) == 0;
     }
 
     private void addUpSets() {
@@ -804,7 +813,7 @@ public final class FathomRoom {
             setCost[1 << block] = costOf(block);
         }
         for (int set = 1; set < BLOCK_SETS; set++) {
-            int rest = set & set - 1;
+            int rest = set & (set - 1);
             if (rest != 0) {
                 setRisk[set] = setRisk[rest] + setRisk[set ^ rest];
                 setCost[set] = setCost[rest] + setCost[set ^ rest];
@@ -960,7 +969,7 @@ public final class FathomRoom {
         }
 
         boolean isOf(int k) {
-            return kind >= THING && kind < LINEAGE.length && (LINEAGE[kind] >> k & 1) == 1;
+            return kind >= THING && kind < LINEAGE.length && hasBit(LINEAGE[kind], k);
         }
 
         boolean isToldBetween(int first, int last) {
@@ -1045,31 +1054,22 @@ public final class FathomRoom {
         boolean isCovered(Thing doubt, int cell, int span, int day) {
             for (int i = doubt.number + 1; i < thingCount; i++) {
                 Thing thing = thingAt(i);
-                if (isDepthIn(thing, cell, day) && thing.feet > doubt.feet + span && spanOf(thing.survey) <= span) {
+                if (isOne(thing, DEPTH, cell, day) && thing.feet > doubt.feet + span && spanOf(thing.survey) <= span) {
                     return true;
                 }
             }
             return false;
         }
 
-        boolean hasDepth(int cell, int day) {
+        /** How many of a KIND STAND in a CELL on a DAY. */
+        int countOf(int kind, int cell, int day) {
+            int count = 0;
             for (int i = 0; i < thingCount; i++) {
-                if (isDepthIn(thingAt(i), cell, day)) {
-                    return true;
+                if (isOne(thingAt(i), kind, cell, day)) {
+                    count++;
                 }
             }
-            return false;
-        }
-
-        int countDoubts(int cell, int day) {
-            int doubts = 0;
-            for (int i = 0; i < thingCount; i++) {
-                Thing thing = thingAt(i);
-                if (thing != null && thing.kind == DOUBT && thing.cell == cell && thing.standsOn(day)) {
-                    doubts++;
-                }
-            }
-            return doubts;
+            return count;
         }
 
         int countLights(Sheet sheet, int day) {
@@ -1155,7 +1155,7 @@ public final class FathomRoom {
             }
             for (int i = 0; i < thingCount; i++) {
                 Thing thing = thingAt(i);
-                if (thing != null && (kinds >> thing.kind & 1) == 1) {
+                if (thing != null && hasBit(kinds, thing.kind)) {
                     thing.toldNotice = thing.toldBehind == noticeCount ? noticeCount : thing.toldNotice;
                     thing.endedNotice = thing.endedBehind == noticeCount ? noticeCount : thing.endedNotice;
                 }
@@ -1203,7 +1203,7 @@ public final class FathomRoom {
             int untold = 0;
             for (int i = 0; i < thingCount; i++) {
                 Thing thing = thingAt(i);
-                if (thing != null && (kinds >> thing.kind & 1) == 1
+                if (thing != null && hasBit(kinds, thing.kind)
                         && (thing.toldBehind == noticeCount || thing.endedBehind == noticeCount)) {
                     untold++;
                 }
@@ -1226,7 +1226,7 @@ public final class FathomRoom {
             }
             for (int i = 0; i < thingCount; i++) {
                 Thing thing = thingAt(i);
-                if (isDepthIn(thing, cell, day) && surveyAt(thing.survey) != null) {
+                if (isOne(thing, DEPTH, cell, day) && surveyAt(thing.survey) != null) {
                     latest[thing.survey] = i;
                 }
             }
@@ -1268,8 +1268,9 @@ public final class FathomRoom {
             }
         }
 
-        private static boolean isDepthIn(Thing thing, int cell, int day) {
-            return thing != null && thing.kind == DEPTH && thing.cell == cell && thing.standsOn(day);
+        /** Whether it is of a KIND and STANDS in a CELL on a DAY. */
+        private static boolean isOne(Thing thing, int kind, int cell, int day) {
+            return thing != null && thing.kind == kind && thing.cell == cell && thing.standsOn(day);
         }
     }
 
@@ -1337,7 +1338,7 @@ public final class FathomRoom {
                 return FULL;
             }
             for (int i = n - 1; i >= 0 && length < TEXT_BYTES; i--) {
-                text[length] = bytes >> 8 * i & 255;
+                text[length] = (bytes >> (8 * i)) & 255;
                 length++;
             }
             return length;
@@ -1421,7 +1422,7 @@ public final class FathomRoom {
             int rank = 0;
             for (int i = 0; i < 3; i++) {
                 int way = letterHere(WAY_LETTERS);
-                if (way < 0 || (seen >> way & 1) == 1) {
+                if (way < 0 || hasBit(seen, way)) {
                     return false;
                 }
                 seen |= 1 << way;
@@ -1436,10 +1437,10 @@ public final class FathomRoom {
             int kinds = 0;
             for (int i = 0; i < KIND_LETTERS.length(); i++) {
                 int letter = letterHere(KIND_LETTERS);
-                if (letter < 0 || (kinds >> DANGER + letter & 1) == 1) {
+                if (letter < 0 || hasBit(kinds, DANGER + letter)) {
                     break;
                 }
-                kinds |= 1 << DANGER + letter;
+                kinds |= 1 << (DANGER + letter);
                 place++;
             }
             rule.kinds = kinds;
@@ -1557,8 +1558,7 @@ public final class FathomRoom {
         /** The first CELL that a set does not show, or shows without LEAST WATER; -1: none. */
         int firstAmiss(int set) {
             for (int i = 0; i < size(); i++) {
-                boolean isKnown = (known >> i & 1) == 1;
-                boolean amiss = isKnown ? (showers[i] & set) == 0 : (set >> i & 1) == 1;
+                boolean amiss = hasBit(known, i) ? (showers[i] & set) == 0 : hasBit(set, i);
                 if (amiss) {
                     return i;
                 }
@@ -1606,7 +1606,7 @@ public final class FathomRoom {
             this.sheet = number;
             int shown = sheet.fewest();
             for (int i = 0; i < Sheet.MOST_CELLS; i++) {
-                least[i] = (shown >> i & 1) == 1 ? sheet.least[i] : NO;
+                least[i] = hasBit(shown, i) ? sheet.least[i] : NO;
             }
             lightCount = lights;
             noticesAhead = notices;
