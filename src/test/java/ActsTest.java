@@ -192,7 +192,9 @@ public final class ActsTest {
             due.is("44 all 0", x.read(sort, 59), 0);
             due.is("44 no more", x.read(sort, 60), NO);
             x.item(sort, 59, 5);
+            x.item(sort, 0, 5);
             due.is("44 anew", x.tape(sort, sort, 60), 1);
+            due.is("44 all 0 again", x.read(sort, 0), 0);
             due.is("44 all 0 again", x.read(sort, 59), 0);
         }
         due.is("44 of none", x.tape(5, 2, 0), 1);

@@ -221,6 +221,10 @@ public final class RulesTest {
         for (int what = 0; what < 7; what++) {
             due.is("19 next " + what, x.ruled(1, what), next[what]);
         }
+        Due.rule(x, "tell dulws;tell dux", 2);
+        Due.rule(x, "span 4", 2);
+        due.is("19 nothing must be told", x.ruled(2, 6), 0);
+        due.is("19 span", x.ruled(2, 3), 4);
     }
 
     // Promise 20
@@ -281,6 +285,16 @@ public final class RulesTest {
         x.survey(2, 14, 0);
         due.is("20 alike years by year 0: by rank", x.outranks(1, 3, 3), 0);
         due.is("20 alike years by year 0: by rank", x.outranks(3, 1, 3), 1);
+        FathomRoom z = new FathomRoom();
+        z.survey(0, 5, 0);
+        z.survey(0, 6, 0);
+        z.survey(2, 5, 0);
+        Due.rule(z, "year 1", 1);
+        due.is("20 by one year, alike ways", z.outranks(1, 0, 0), 1);
+        due.is("20 the other way", z.outranks(0, 1, 0), 0);
+        due.is("20 by one year of none", z.outranks(1, 2, 0), 0);
+        due.is("20 by one year of one", z.outranks(1, 2, 1), 1);
+        due.is("20 the other way", z.outranks(2, 1, 1), 0);
         FathomRoom y = new FathomRoom();
         y.survey(0, 999, 0);
         y.survey(2, 0, 0);
