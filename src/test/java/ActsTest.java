@@ -7,6 +7,7 @@ public final class ActsTest {
         act();
         actBodies();
         actWraps();
+        actsOfEachKindWrap();
         actRefused();
         taken();
         count();
@@ -101,6 +102,31 @@ public final class ActsTest {
         due.is("40 wraps", x.act(0, 1, Integer.MAX_VALUE), 204);
         due.is("40 wraps", x.act(1, 2, Integer.MAX_VALUE), (50 ^ 21) - 1);
         due.is("40 wraps", x.act(10, 0, Integer.MIN_VALUE - 40), Integer.MIN_VALUE);
+    }
+
+    /** The host's own wrapping, by the Model that lets the host choose the bodies. */
+    private static void actsOfEachKindWrap() {
+        int[] xs = {Integer.MIN_VALUE, Integer.MIN_VALUE + 1, -(1 << 30) - 1, -1, 0, (1 << 30) - 1, Integer.MAX_VALUE - 1,
+            Integer.MAX_VALUE};
+        House house = new House(due);
+        house.ask("survey", 0, 0, 0);
+        for (int kind = 2; kind < 6; kind++) {
+            house.ask("tell", kind, 0, kind == 3 ? 40 : 5, kind == 4 ? 0 : -99);
+        }
+        int[] corner = {32, 33, 40, 41};
+        for (int cell : corner) {
+            house.ask("sound", 0, cell, 0, 999);
+        }
+        house.ask(15, 8, "strike", 1, 0);
+        for (int thing = 0; thing < 9; thing++) {
+            for (int act = 0; act < 3 && (thing < 5 || thing == 8); act++) {
+                for (int x : xs) {
+                    house.ask("act", thing, act, x);
+                }
+                house.ask("count", 11);
+                house.ask("trace", 3);
+            }
+        }
     }
 
     private static void actRefused() {

@@ -1,6 +1,31 @@
 /** Calls by name, to the program and to the Model. */
 final class Calls {
+    /** In the order of their promises, from 2 on. */
+    static final String[] NAMES = {"pass", "survey", "part", "gauge", "tide", "traffic", "sound", "line", "ended",
+        "tell", "move", "end", "bare", "strike", "of", "feed", "rule", "ruled", "outranks", "water", "sheet", "shown",
+        "judge", "edition", "printed", "lights", "notice", "noticed", "late", "copy", "correct", "stood", "worse", "step",
+        "stepless", "go", "block", "plan", "act", "trace", "taken", "count", "tape", "item", "read", "blank", "shift"};
+
     private Calls() {
+    }
+
+    /** The number of the promise that tells of a call. */
+    static int promise(String name) {
+        for (int i = 0; i < NAMES.length; i++) {
+            if (NAMES[i].equals(name)) {
+                return i + 2;
+            }
+        }
+        throw new IllegalArgumentException(name);
+    }
+
+    /** A call as it is written, with the number of its promise ahead. */
+    static String told(String name, int... a) {
+        StringBuilder s = new StringBuilder().append(promise(name)).append(' ').append(name).append('(');
+        for (int i = 0; i < a.length; i++) {
+            s.append(i == 0 ? "" : ", ").append(a[i]);
+        }
+        return s.append(')').toString();
     }
 
     static int program(FathomRoom x, String name, int... a) {

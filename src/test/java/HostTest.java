@@ -5,10 +5,6 @@ public final class HostTest {
     private static final int[] EDGES = {Integer.MIN_VALUE, Integer.MIN_VALUE + 1, -1000000, -100, -99, -15, -14, -5, -2, -1,
         0, 1, 2, 3, 4, 5, 7, 8, 11, 12, 19, 20, 24, 47, 48, 59, 60, 89, 90, 99, 100, 119, 120, 400, 999, 1000, 4095, 4096,
         9999, 10000, 99000, 99999, 100000, 800000, 999999999, Integer.MAX_VALUE - 1, Integer.MAX_VALUE};
-    private static final String[] NAMES = {"pass", "survey", "part", "gauge", "tide", "traffic", "sound", "line", "ended",
-        "tell", "move", "end", "bare", "strike", "of", "feed", "rule", "ruled", "outranks", "water", "sheet", "shown",
-        "judge", "edition", "printed", "lights", "notice", "noticed", "late", "copy", "correct", "stood", "worse", "step",
-        "stepless", "go", "block", "plan", "act", "trace", "taken", "count", "tape", "item", "read", "blank", "shift"};
 
     public static void main(String[] args) {
         long calls = 0;
@@ -24,11 +20,11 @@ public final class HostTest {
                 for (int k = 0; k < a.length; k++) {
                     a[k] = random.nextInt(3) == 0 ? EDGES[random.nextInt(EDGES.length)] : random.nextInt(8);
                 }
-                String name = NAMES[random.nextInt(NAMES.length)];
+                String name = Calls.NAMES[random.nextInt(Calls.NAMES.length)];
                 try {
                     Calls.program(x, name, a);
                 } catch (RuntimeException | StackOverflowError e) {
-                    System.out.println("HostTest: " + name + " threw " + e + " in run " + seed);
+                    System.out.println("HostTest: " + Calls.promise(name) + " " + name + " threw " + e + " in run " + seed);
                     System.exit(1);
                 }
                 calls++;

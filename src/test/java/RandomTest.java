@@ -78,11 +78,7 @@ public final class RandomTest {
     }
 
     private int[] both(String name, int... a) {
-        StringBuilder s = new StringBuilder(name).append('(');
-        for (int i = 0; i < a.length; i++) {
-            s.append(i == 0 ? "" : ", ").append(a[i]);
-        }
-        call = s.append(')').toString();
+        call = Calls.told(name, a);
         return new int[] {Calls.program(x, name, a), Calls.model(model, name, a)};
     }
 

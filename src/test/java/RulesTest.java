@@ -110,8 +110,11 @@ public final class RulesTest {
         fault("tell;", 4);
         fault("tell x", 5);
         fault("tell e", 5);
-        fault("tell dd", 6);
-        fault("tell dulwsd", 10);
+        for (char letter : "dulws".toCharArray()) {
+            fault("tell " + letter + letter, 6);
+            fault("tell dulws" + letter, 10);
+            fault("tell swlud" + letter, 10);
+        }
         fault("tell d u", 6);
         fault("tell dul;", 9);
         fault("tell dul;t", 10);

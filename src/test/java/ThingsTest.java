@@ -10,6 +10,8 @@ public final class ThingsTest {
         lineRefused();
         lineBlanks();
         lineTides();
+        lineOfFarNumbers();
+        lineOfALongRow();
         tell();
         move();
         end();
@@ -228,6 +230,46 @@ public final class ThingsTest {
         reals(x, 1, 8080);
         due.is("9 1010 less 12", x.line(0, 0, 0, 0, 1, 0, 1), 1);
         due.is("9 1010 less 12", x.of(8, 3), 998);
+    }
+
+    /** The greatest and the least that a row of reals holds, and those just within 999 and -99 feet. */
+    private static void lineOfFarNumbers() {
+        int[] eighths = {7999, 8000, 800000, -792, -793, -800000};
+        int[] feet = {999, 0, 0, -99, 0, 0};
+        for (int i = 0; i < eighths.length; i++) {
+            FathomRoom x = room();
+            reals(x, 0, eighths[i]);
+            boolean fine = feet[i] != 0;
+            due.is("9 of " + eighths[i], x.line(0, 0, 0, 0, 0, 0, 1), fine ? 1 : 0);
+            due.is("10 of " + eighths[i], x.ended(), fine ? 0 : 4);
+            due.is("16 of " + eighths[i], x.of(0, 3), fine ? feet[i] : -1000000);
+        }
+    }
+
+    private static void lineOfALongRow() {
+        FathomRoom x = room();
+        x.tape(0, 3, 60);
+        for (int i = 0; i < 60; i++) {
+            x.item(0, i, 8 * i);
+        }
+        due.is("9 48 numbers, eight cells", x.line(0, 0, 0, 0, 0, 0, 48), 8);
+        due.is("10 beyond", x.ended(), 3);
+        due.is("9 48 numbers, six cells", x.line(0, 7, 1, 0, 0, 12, 48), 6);
+        due.is("10 beyond", x.ended(), 3);
+        due.is("9 the first of them", x.of(8, 3), 12);
+        due.is("9 the last place", x.line(0, 0, 0, 0, 0, 59, 1), 1);
+        due.is("10 all came", x.ended(), 0);
+        due.is("9 the last number", x.of(14, 3), 59);
+        due.is("9 one behind the last place", x.line(0, 0, 0, 0, 0, 59, 2), 1);
+        due.is("10 place", x.ended(), 2);
+        due.is("9 behind the last place", x.line(0, 0, 0, 0, 0, 60, 1), 0);
+        due.is("10 place", x.ended(), 2);
+        x.tape(0, 3, 0);
+        due.is("9 a row of none", x.line(0, 0, 0, 0, 0, 0, 1), 0);
+        due.is("10 place", x.ended(), 2);
+        x.tape(0, -1, 0);
+        due.is("9 no row any more", x.line(0, 0, 0, 0, 0, 0, 1), 0);
+        due.is("10 nothing", x.ended(), 1);
     }
 
     // Promise 11

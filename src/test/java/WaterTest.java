@@ -8,10 +8,12 @@ public final class WaterTest {
         waterOfOne();
         waterQuarrels();
         waterTies();
+        waterOfTheLeastFeet();
         bestOfTwo();
         bestGoesRound();
         waterByDays();
         leastWater();
+        leastWaterByRule();
         sheet();
         shown();
         shownNear();
@@ -20,12 +22,15 @@ public final class WaterTest {
         edition();
         editionByPlaces();
         editionOfLights();
+        chartsByTheRuleToday();
         editionsFull();
         notice();
         noticeMissed();
         noticesFull();
         noticed();
         late();
+        lateWithoutClause();
+        toldAndEndedOnOneDay();
         due.end();
     }
 
@@ -109,6 +114,34 @@ public final class WaterTest {
         x.sound(0, 0, 0, 30);
         due.is("21 alike to THE BEST: no quarrel", x.water(0, 0, 2), 2);
         due.is("21 then", x.water(0, 0, 1), 4);
+    }
+
+    /** FEET come ahead of the number of a THING, in whatever order the SURVEYS stand. */
+    private static void waterOfTheLeastFeet() {
+        for (int order = 0; order < 2; order++) {
+            FathomRoom x = new FathomRoom();
+            x.survey(0, 0, 0);
+            x.survey(0, 0, 0);
+            x.survey(2, 0, 0);
+            x.sound(order, 0, 0, 11);
+            x.sound(1 - order, 0, 0, 10);
+            x.sound(2, 0, 0, 30);
+            due.is("21 the least feet, not the least number", x.water(0, 0, 1), 1);
+            due.is("21 the least feet", x.water(0, 0, 0), 10);
+            due.is("21 two quarrel", x.water(0, 0, 2), 2);
+            x.sound(1 - order, 0, 0, 12);
+            due.is("21 the other one", x.water(0, 0, 1), 0);
+        }
+        FathomRoom y = new FathomRoom();
+        y.survey(0, 0, 9);
+        y.survey(2, 0, 9);
+        y.tell(2, 0, 0, 999);
+        y.sound(1, 0, 0, 999);
+        y.sound(0, 0, 0, 981);
+        due.is("21 the greatest spans together", y.water(0, 0, 2), 0);
+        y.sound(0, 0, 0, 980);
+        due.is("21 one more than the greatest spans", y.water(0, 0, 2), 1);
+        due.is("21 then", y.water(0, 0, 4), 980);
     }
 
     private static void bestOfTwo() {
@@ -199,6 +232,25 @@ public final class WaterTest {
         due.is("21 not yet told", x.water(1, 0, 4), NO);
         x.tell(4, 0, 2, 0);
         due.is("21 a light alone", x.water(2, 1, 4), NO);
+    }
+
+    /** LEAST WATER too is by THE RULE of its DAY. */
+    private static void leastWaterByRule() {
+        FathomRoom x = new FathomRoom();
+        x.survey(2, 0, 0);
+        x.survey(0, 0, 9);
+        x.survey(1, 0, 0);
+        x.sound(0, 0, 0, 20);
+        x.sound(1, 0, 0, 12);
+        x.sound(2, 0, 0, 15);
+        x.tell(2, 0, 0, 14);
+        // The lead quarrels with neither: no more than 9 feet off.
+        Due.rule(x, "rank lwe", 5);
+        due.is("21 by the wire", x.water(0, 4, 0), 15);
+        due.is("21 by the lead", x.water(0, 5, 0), 12);
+        due.is("21 least water ahead of the rule", x.water(0, 4, 4), 14);
+        due.is("21 least water by the rule", x.water(0, 5, 4), 12);
+        due.is("21 least water behind it", x.water(0, 6, 4), 12);
     }
 
     // Promise 22
@@ -440,6 +492,32 @@ public final class WaterTest {
         due.is("27 no light", x.lights(2), 0);
     }
 
+    /** THE RULE that a judge() and an EDITION keep to came in force TODAY. */
+    private static void chartsByTheRuleToday() {
+        FathomRoom x = new FathomRoom();
+        x.survey(0, 0, 0);
+        x.sheet(0, 1, 2, 1);
+        x.sound(0, 0, 0, 14);
+        x.sound(0, 1, 0, 10);
+        Due.rule(x, "near 4", 1);
+        Due.rule(x, "near 0", 2);
+        due.is("24 ahead of the rule", x.judge(0, 1), 1);
+        x.edition(0);
+        due.is("25 ahead of the rule", x.printed(0, 0), NO);
+        due.is("25 ahead of the rule", x.printed(0, 1), 10);
+        x.pass(1);
+        due.is("24 from today on", x.judge(0, 1), -1);
+        x.edition(0);
+        due.is("25 from today on", x.printed(1, 0), 14);
+        due.is("25 from today on", x.printed(1, 1), NO);
+        x.pass(1);
+        due.is("24 up to yesterday", x.judge(0, 1), 1);
+        x.edition(0);
+        due.is("25 up to yesterday", x.printed(2, 0), NO);
+        due.is("23 each by its day", x.shown(0, 1), 1);
+        due.is("23 each by its day", x.shown(0, 0) + x.shown(0, 2), 4);
+    }
+
     private static void editionsFull() {
         FathomRoom x = new FathomRoom();
         x.sheet(0, 1, 1, 0);
@@ -585,5 +663,65 @@ public final class WaterTest {
         due.is("30 no day of none", x.late(), 2);
         Due.rule(x, "late 2", 4);
         due.is("30 a text in force from an earlier day", x.late(), 4);
+    }
+
+    /** Without a CLAUSE: more than 999 DAYS. */
+    private static void lateWithoutClause() {
+        FathomRoom x = new FathomRoom();
+        x.survey(0, 0, 0);
+        Due.rule(x, "tell d", 0);
+        x.tell(2, 0, 0, 5);
+        x.pass(1);
+        x.tell(2, 0, 0, 5);
+        x.pass(400);
+        x.pass(400);
+        x.pass(199);
+        due.is("30 not told", x.late(), 0);
+        x.notice();
+        due.is("30 1000 days, not 999", x.late(), 1);
+        Due.rule(x, "late 998", 1000);
+        due.is("30 999 days, not 998", x.late(), 2);
+        Due.rule(x, "late 999", 1000);
+        due.is("30 not 999 days", x.late(), 1);
+        FathomRoom y = new FathomRoom();
+        y.survey(0, 0, 0);
+        Due.rule(y, "tell l", 0);
+        y.tell(4, 0, 0, 0);
+        y.pass(400);
+        y.pass(400);
+        y.pass(199);
+        y.notice();
+        due.is("30 999 days", y.late(), 0);
+    }
+
+    /** From the DAY on which it was told it is ENDED: it STANDS on none. */
+    private static void toldAndEndedOnOneDay() {
+        FathomRoom x = new FathomRoom();
+        x.survey(0, 0, 0);
+        x.sheet(0, 1, 1, 0);
+        x.pass(3);
+        x.tell(2, 0, 0, 5);
+        x.tell(4, 0, 0, 0);
+        x.step(0);
+        x.edition(0);
+        x.copy(0);
+        due.is("13 stands", x.water(0, 3, 4), 5);
+        due.is("27 stands", x.lights(0), 1);
+        due.is("37 stands", x.go(0, 0, 0, 2), 1);
+        x.end(0);
+        x.end(1);
+        x.edition(0);
+        due.is("13 on no day", x.water(0, 2, 4), NO);
+        due.is("13 on no day", x.water(0, 3, 4), NO);
+        due.is("13 on no day", x.water(0, 4, 4), NO);
+        due.is("27 not in the edition", x.lights(1), 0);
+        due.is("26 not in the edition", x.printed(1, 0), NO);
+        due.is("37 not near", x.go(0, 0, 0, 2), 0);
+        Due.rule(x, "tell dl", 0);
+        x.notice();
+        int[] items = {0, 1, 100, 101, -1};
+        for (int i = 0; i < items.length; i++) {
+            due.is("29 told and ended " + i, x.noticed(0, i), items[i]);
+        }
     }
 }
