@@ -3,7 +3,8 @@ import java.util.List;
 
 /**
  * Promises 2 to 48: of each number of each call the least and the greatest that is allowed, the one
- * below, the one above; and that a refused call changes nothing that later calls show.
+ * below, the one above; that a refused call changes nothing that later calls show; and that of two
+ * refusals the one that a call's words name first is answered.
  */
 public final class EdgesTest {
     private static final int NONE = -1, BAD = -2, STATE = -3, NO = -1000000;
@@ -30,6 +31,8 @@ public final class EdgesTest {
         acts();
         tapes();
         shifts();
+        firstNamed();
+        firstNamedOfTapes();
         due.end();
     }
 
@@ -275,6 +278,22 @@ public final class EdgesTest {
         due.is(promise + " " + name + " refused changes nothing", later(house).equals(untouched) ? 0 : 1, 0);
     }
 
+    /** Each wrong is a refusal, the place of a number, and what is wrong there; in the order of the call's words. */
+    private static void inOrder(String name, int[] fine, int[]... wrongs) {
+        House house = furnished();
+        for (int i = 0; i < wrongs.length; i++) {
+            for (int j = i; j < wrongs.length; j++) {
+                int[] first = wrongs[i];
+                int[] second = wrongs[j];
+                if (i == j || first[1] != second[1]) {
+                    int[] both = with(with(fine, first[1], first[2]), second[1], second[2]);
+                    house.ask(Calls.promise(name), first[0], name, both);
+                }
+            }
+        }
+        due.is(Calls.promise(name) + " " + name + " refused changes nothing", later(house).equals(untouched) ? 0 : 1, 0);
+    }
+
     private static void sea() {
         edge(2, BAD, 1, 400, 0, "pass", 1);
         edge(3, BAD, 0, 2, 0, "survey", 0, 10, 3);
@@ -495,5 +514,40 @@ public final class EdgesTest {
         refusedAll(48, CAST, "shift", new int[] {0, 0, 1, 0, 1}, new int[] {1, 0, 2, 0, 1}, new int[] {2, -1, 3, 0, 1},
                 new int[] {3, 0, 5, 9, 1}, new int[] {3, 0, 5, 0, -1});
         refusedAll(48, NONE, "shift", new int[] {-1, 0, 4, 0, 1}, new int[] {4, 0, 6, 0, 1}, new int[] {0, -1, 6, 0, 1});
+    }
+
+    // ---- of several refusals
+
+    private static void firstNamed() {
+        inOrder("part", new int[] {0, 1, 2, 0}, new int[] {NONE, 0, 4}, new int[] {BAD, 1, 31}, new int[] {BAD, 2, 1},
+                new int[] {BAD, 3, 40});
+        inOrder("traffic", new int[] {9, 5}, new int[] {NONE, 0, 48}, new int[] {BAD, 1, 100});
+        inOrder("sound", new int[] {0, 9, 5, 30}, new int[] {NONE, 0, SURVEYS}, new int[] {NONE, 1, 48},
+                new int[] {BAD, 2, 100000}, new int[] {BAD, 3, 1000});
+        inOrder("line", new int[] {0, 9, 0, 5, 0, 0, 2}, new int[] {NONE, 0, SURVEYS}, new int[] {NONE, 1, 48},
+                new int[] {NONE, 4, 6}, new int[] {BAD, 2, 4}, new int[] {BAD, 3, 100000}, new int[] {BAD, 6, 0},
+                new int[] {CAST, 4, 1});
+        inOrder("tell", new int[] {2, 0, 9, 0}, new int[] {NONE, 1, SURVEYS}, new int[] {NONE, 2, 48},
+                new int[] {BAD, 0, 6}, new int[] {BAD, 3, 1000});
+        inOrder("move", new int[] {WRECK, 20}, new int[] {NONE, 0, THINGS}, new int[] {NONE, 1, 48},
+                new int[] {BAD, 0, DANGER}, new int[] {STATE, 0, ENDED_WRECK});
+        inOrder("strike", new int[] {COVERED, 0}, new int[] {NONE, 0, THINGS}, new int[] {NONE, 1, SURVEYS},
+                new int[] {BAD, 0, DANGER}, new int[] {STATE, 0, STRUCK_DOUBT}, new int[] {STATE, 0, 8});
+        inOrder("outranks", new int[] {0, 1, 0}, new int[] {NONE, 0, SURVEYS}, new int[] {NONE, 1, SURVEYS},
+                new int[] {BAD, 2, 10000});
+        inOrder("correct", new int[] {0, 2}, new int[] {NONE, 0, COPIES}, new int[] {NONE, 1, NOTICES}, new int[] {STATE, 1, 1});
+        inOrder("taken", new int[] {DEPTH, 0}, new int[] {BAD, 1, 7}, new int[] {NOTHING, 0, THINGS}, new int[] {CAST, 1, 2});
+    }
+
+    private static void firstNamedOfTapes() {
+        inOrder("tape", new int[] {0, 3, 6}, new int[] {NONE, 0, 6}, new int[] {BAD, 1, 4}, new int[] {BAD, 2, 61},
+                new int[] {SIZE, 2, -1});
+        inOrder("item", new int[] {0, 0, 5}, new int[] {NONE, 0, 6}, new int[] {NOTHING, 0, 4}, new int[] {PLACE, 1, 6},
+                new int[] {BAD, 2, 800001});
+        inOrder("blank", new int[] {0, 0}, new int[] {NONE, 0, 6}, new int[] {NOTHING, 0, 4}, new int[] {CAST, 0, 1},
+                new int[] {PLACE, 1, 6});
+        inOrder("shift", new int[] {0, 1, 5, 2, 3}, new int[] {NONE, 0, 6}, new int[] {NONE, 2, 6}, new int[] {NOTHING, 0, 4},
+                new int[] {NOTHING, 2, 4}, new int[] {CAST, 2, 1}, new int[] {PLACE, 1, 7}, new int[] {PLACE, 3, -1},
+                new int[] {PLACE, 4, 7});
     }
 }

@@ -9,6 +9,9 @@ public final class FullTest {
         numbersInTheirOrder();
         fullHouse();
         lastThing();
+        fullOfParts();
+        fullOfEditions();
+        fullOfCorrections();
         fullOfSurveys();
         fullText();
         lastDay();
@@ -265,6 +268,79 @@ public final class FullTest {
             house.ask(11, FULL, "tell", 4, 0, 20, 0);
             house.ask(13, 1, "end", 88);
         }
+    }
+
+    private static void fullOfParts() {
+        House house = new House(due);
+        for (int gauge = 0; gauge < 4; gauge++) {
+            house.ask(5, -1, "gauge", gauge, gauge);
+            for (int i = 1; i <= 4; i++) {
+                house.ask(4, i, "part", gauge, 30, 2, gauge);
+            }
+        }
+        for (int gauge = 0; gauge < 4; gauge++) {
+            house.ask(4, FULL, "part", gauge, 29, 3, 1);
+        }
+        for (int gauge = 0; gauge < 4; gauge++) {
+            house.ask(6, gauge % 2 == 0 ? 120 : 0, "tide", gauge, 0);
+            house.ask(6, gauge % 2 == 0 ? 0 : 120, "tide", gauge, 99999);
+        }
+    }
+
+    /** What an EDITION or a COPY too many is not, and what the last ones are. */
+    private static void fullOfEditions() {
+        House house = new House(due);
+        house.ask("survey", 0, 0, 0);
+        for (int i = 0; i < 16; i++) {
+            house.ask(22, i, "sheet", 0, 1, 1, 0);
+        }
+        house.ask("sound", 0, 0, 0, 20);
+        for (int i = 0; i < 60; i++) {
+            house.ask(25, i, "edition", 15);
+        }
+        house.ask(22, FULL, "sheet", 1, 1, 1, 0);
+        house.ask("sound", 0, 0, 0, 10);
+        house.ask(25, FULL, "edition", 15);
+        house.ask(25, FULL, "edition", 0);
+        house.ask(31, STATE, "copy", 0);
+        house.ask(26, 20, "printed", 59, 0);
+        house.ask(26, NO, "printed", 60, 0);
+        house.ask(23, 1, "shown", 15, 0);
+        for (int i = 0; i < 24; i++) {
+            house.ask(31, i, "copy", 15);
+        }
+        house.ask(31, FULL, "copy", 15);
+        house.ask(33, 20, "stood", 23, 0, 0);
+        house.ask(33, NO, "stood", 24, 0, 0);
+        house.ask(34, 1, "worse", 23, 0, 0);
+        house.ask(34, NO_SUCH, "worse", 24, 0, 0);
+    }
+
+    /** A COPY that is refused its CORRECTION stays as it was. */
+    private static void fullOfCorrections() {
+        House house = new House(due);
+        house.ask("survey", 0, 0, 0);
+        house.ask("sheet", 0, 1, 1, 0);
+        house.ask("edition", 0);
+        house.ask("copy", 0);
+        house.ask("copy", 0);
+        house.rule("tell d", 0);
+        for (int i = 0; i < 50; i++) {
+            house.ask("tell", 2, 0, 0, 100 - i);
+            house.ask(28, i, "notice");
+        }
+        for (int i = 0; i < 99; i++) {
+            house.ask(32, i + 1, "correct", i / 50, i % 50);
+        }
+        for (int twice = 0; twice < 2; twice++) {
+            house.ask(32, FULL, "correct", 1, 49);
+            house.ask(33, 52, "stood", 1, 0, 0);
+        }
+        house.ask(32, STATE, "correct", 1, 48);
+        house.ask(32, STATE, "correct", 0, 49);
+        house.ask(33, 51, "stood", 0, 0, 0);
+        house.ask(34, 1, "worse", 1, 0, 0);
+        house.ask(34, 0, "worse", 0, 0, 0);
     }
 
     /** 12 SURVEYS in one CELL, in each way that they may quarrel. */

@@ -270,7 +270,9 @@ public final class WaterTest {
             due.is("22 sheet " + i, x.sheet(0, 1, 1, 0), i);
         }
         due.is("22 full", x.sheet(0, 1, 1, 0), -4);
-        due.is("22 bad ahead of full", x.sheet(0, 1, 1, 4), -2);
+        for (int[] b : bad) {
+            due.is("22 bad ahead of full " + b[0] + " " + b[1], x.sheet(b[0], b[1], b[2], b[3]), -2);
+        }
         due.is("43 sheets", x.count(4), 16);
     }
 
